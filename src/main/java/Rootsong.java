@@ -558,7 +558,7 @@ public final class Rootsong {
             size = other.size;
         }
 
-        /** How many signs are the same, one by one, from a place on and in another text from one on. */
+        /** How many signs are the same, one by one, from a place on and from one of another text. */
         int alike(int from, Text other, int otherFrom) {
             int most = Math.min(size - from, other.size - otherFrom);
             int count = 0;
@@ -864,7 +864,7 @@ public final class Rootsong {
             return other.rootSize() == size && text.alike(0, other, 0) >= size ? size : 0;
         }
 
-        /** Two texts joined either way round are the same if, and only if, they have a common root. */
+        /** Two texts that are not both empty commute if, and only if, they have a common root. */
         static boolean areTrue(Text text, Text other) {
             boolean areEmpty = text.isEmpty() && other.isEmpty();
             return doCommute(text, other) == (areEmpty || sharedSize(text, other) > 0);
@@ -902,9 +902,8 @@ public final class Rootsong {
         boolean areFree(Text[] texts, int set) {
             forgetRemainders();
             for (int slot = 0; slot < SLOTS; slot++) {
-                for (int other = 0; other < SLOTS; other++) {
-                    if (slot != other && isUsed(texts, set, slot)
-                            && isMatchedBy(texts, set, slot, 0, other)) {
+                for (int other = 0; other < slot; other++) {
+                    if (isUsed(texts, set, slot) && isMatchedBy(texts, set, slot, 0, other)) {
                         return false;
                     }
                 }
@@ -947,7 +946,8 @@ public final class Rootsong {
 
         private void keepRemainder(int slot, int begin) {
             long bit = 1L << begin;
-            if (slot >= 0 && slot < SLOTS && (known[slot] & bit) == 0 && remainders < slots.length) {
+            boolean isNew = slot >= 0 && slot < SLOTS && (known[slot] & bit) == 0;
+            if (isNew && remainders < slots.length) {
                 known[slot] |= bit;
                 slots[remainders] = slot;
                 begins[remainders] = begin;

@@ -142,6 +142,7 @@ public final class MakingTest {
 
     private static void putting(String text, String what, String with, String want) {
         Rootsong song = Check.with(text, what, with);
+        song.join(4, 1, 1);
         String call = "12: put(" + text + ", " + what + ", " + with + ")";
         Check.due(call, song.put(3, 0, 1, 2), want.length());
         Check.due(call + " text", Check.text(song, 3), want);

@@ -22,17 +22,24 @@ public final class PartsTest {
     }
 
     private static void partsOf(String text, int unlike, int mirrors, String twice) {
-        Rootsong song = Check.with(text, "else");
         Model model = new Model();
         model.texts[0] = text;
         Check.due("34: the test's own number for " + text, unlike, model.unlikeParts(0));
         Check.due("36: the test's own number for " + text, mirrors, model.mirrors(0));
-        Check.due("34: of " + text, song.unlikeParts(0), unlike);
+        Check.due("34: of " + text, behindAnother(text).unlikeParts(0), unlike);
+        Check.due("36: of " + text, behindAnother(text).mirrors(0), mirrors);
+        Rootsong song = behindAnother(text);
         Check.due("35: of " + text, song.twice(1, 0), twice.length());
         Check.due("35: the text of " + text, Check.all(song), text + "\n" + twice + "\n\n\n\n\n");
-        Check.due("36: of " + text, song.mirrors(0), mirrors);
         song.twice(0, 0);
         Check.due("35: of itself " + text, Check.text(song, 0), twice);
+    }
+
+    /** An object that has put the ends of another text in order just before. */
+    private static Rootsong behindAnother(String text) {
+        Rootsong song = Check.with(text, "mississippi".repeat(5));
+        song.endAt(1, 0);
+        return song;
     }
 
     private static void slots() {

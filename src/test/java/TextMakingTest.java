@@ -134,6 +134,8 @@ public final class TextMakingTest {
         free(true, "aaaab", "aaab", "aab", "ab", "b", "aaaaab");
         free(false, FULL, FULL.substring(1), "y");
         free(true, FULL, FULL.substring(1) + "y", FULL.substring(2) + "y");
+        longTexts();
+        shortTexts();
         Rootsong song = Check.with("a", "ab", "ba", "a");
         Check.due("40: some of them", song.isFree(3), true);
         Check.due("40: others of them", song.isFree(5), true);
@@ -150,6 +152,37 @@ public final class TextMakingTest {
         Check.due("40: the test's own answer for " + names, want, model.isFree(63));
         Check.due("40: of " + names, song.isFree(63), want);
         Check.due("40: of " + names + " again", song.isFree(63), want);
+    }
+
+    /** Each of the long ones can be begun by x and y sign by sign, up to ahead of its z. */
+    private static void longTexts() {
+        String one = "xyxxyxyy".repeat(8).substring(0, 59) + "z";
+        String two = "yxxyyxyxxx".repeat(6).substring(0, 59) + "z";
+        String three = "xxxxyyyyyxy".repeat(6).substring(0, 59) + "z";
+        String four = "yyxyyyyx".repeat(8).substring(0, 59) + "z";
+        free(true, "x", "y", one, two, three, four);
+        for (int from : new int[] {1, 30, 58, 59}) {
+            free(false, "x", "y", one, two, three, three.substring(from));
+            free(false, one.substring(from), two, three, one, "x", "y");
+        }
+    }
+
+    /** All triples of texts of at most three signs a and b. */
+    private static void shortTexts() {
+        String[] texts = {"", "a", "b", "aa", "ab", "ba", "bb", "aaa", "aab", "aba", "abb", "baa",
+            "bab", "bba", "bbb"};
+        Model model = new Model();
+        for (String one : texts) {
+            for (String two : texts) {
+                for (String three : texts) {
+                    model.texts[0] = one;
+                    model.texts[1] = two;
+                    model.texts[5] = three;
+                    Check.due("40: of " + one + ", " + two + ", " + three,
+                            Check.with(one, two, "", "", "", three).isFree(63), model.isFree(63));
+                }
+            }
+        }
     }
 
     private static void isFreeRefuses() {

@@ -103,11 +103,14 @@ public final class TurningTest {
     }
 
     private static void endsOf(String text, int... places) {
-        Rootsong song = Check.with(text);
+        // Between two calls the ends of another text are put in order.
+        Rootsong song = Check.with(text, "some other text");
         for (int index = 0; index < places.length; index++) {
             Check.due("32: of " + text + " at " + index, song.endAt(0, index), places[index]);
+            song.unlikeParts(1);
             Check.due("33: of " + text + " at " + places[index], song.rankOf(0, places[index]),
                     index);
+            song.unlikeParts(1);
         }
         int[] outside = {-1, places.length, 60, 61, Integer.MIN_VALUE, Integer.MAX_VALUE};
         for (int index : outside) {
