@@ -1,9 +1,12 @@
 import java.util.Arrays;
 
-/** Runs of 512 calls, always the same ones, each answered by Rootsong and by the model. */
+/**
+ * Runs of calls, always the same ones, each answered by Rootsong and by the model. Behind each call
+ * the checksum tells whether the texts are as due; all in all a run stays within 512 calls.
+ */
 public final class RunsTest {
-    private static final int RUNS = 400;
-    private static final int CALLS = 512;
+    private static final int RUNS = 1000;
+    private static final int CALLS = 240;
     private static final int KINDS = 44;
 
     private long state;
@@ -27,11 +30,12 @@ public final class RunsTest {
         letters = alphabets[run % alphabets.length];
         for (int call = 0; call < CALLS; call++) {
             step("run " + run + ", call " + call);
-            Check.due("the texts behind run " + run + ", call " + call, Check.all(song),
-                    String.join("\n", model.texts) + "\n");
+            Check.due("checksum behind run " + run + ", call " + call, song.checksum(),
+                    model.checksum());
+            if (call % 8 == 7) {
+                Check.due("isTrue behind run " + run + ", call " + call, song.isTrue(), true);
+            }
         }
-        Check.due("run " + run + ", checksum", song.checksum(), model.checksum());
-        Check.due("run " + run + ", isTrue", song.isTrue(), true);
     }
 
     private int below(int bound) {
