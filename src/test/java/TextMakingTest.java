@@ -210,7 +210,8 @@ public final class TextMakingTest {
     @Says("39: Throws IllegalArgumentException if the set is out of range")
     static void waysRefusesNoSet() {
         Check.refusedEach("set", WRONG, Check.texts("ab", "a", "b"),
-                (song, set) -> song.ways(0, set), -1, -64, 64, 65, 127, 128, Check.LOWEST, Check.HIGHEST);
+                (song, set) -> song.ways(0, set),
+                -1, -64, 64, 65, 127, 128, Check.LOWEST, Check.HIGHEST);
         Check.refusedEach("of an empty text, set", WRONG, Check.texts(""),
                 (song, set) -> song.ways(0, set), -1, 64);
     }
@@ -307,6 +308,14 @@ public final class TextMakingTest {
             free(false, "x", "y", one, two, three, three.substring(from));
             free(false, one.substring(from), two, three, one, "x", "y");
         }
+    }
+
+    /** The same remainders come again and again here, ahead of the one that ends two rows. */
+    @Says("40: Tells whether some slots are free")
+    static void isFreeOfLongTextsWithLikeRemainders() {
+        free(false, "bb", "b".repeat(38) + "z", "b".repeat(40) + "z" + "b".repeat(19),
+                "a" + "b".repeat(40) + "z" + "b".repeat(18),
+                "b".repeat(43) + "z" + "b".repeat(16));
     }
 
     /** All triples of texts of at most three signs a and b. */
