@@ -554,8 +554,8 @@ public final class Rootsong {
         }
 
         void become(Text other) {
-            System.arraycopy(other.signs, 0, signs, 0, other.size);
-            size = other.size;
+            clear();
+            addAll(other);
         }
 
         /** How many signs are the same, one by one, from a place on and from one of another text. */
@@ -787,13 +787,13 @@ public final class Rootsong {
         void arrange(Text text) {
             int size = text.size();
             // The empty end is less than all others; it has a rank so that they can be told by it.
-            ranks[size] = -1;
+            keepRank(size, -1);
             for (int place = size - 1; place >= 0; place--) {
                 insert(text, place);
             }
             for (int place = 0; place < size; place++) {
-                int rank = ranks[place];
-                if (rank >= 0 && rank < MOST) {
+                int rank = rankBy(place);
+                if (rank >= 0 && rank < places.length) {
                     places[rank] = place;
                 }
             }
@@ -807,26 +807,33 @@ public final class Rootsong {
                 }
             }
             for (int later = place + 1; later < text.size(); later++) {
-                if (ranks[later] >= rank) {
-                    ranks[later]++;
+                int laterRank = rankBy(later);
+                if (laterRank >= rank) {
+                    keepRank(later, laterRank + 1);
                 }
             }
-            ranks[place] = rank;
+            keepRank(place, rank);
         }
 
         /** Behind the same sign two ends are as the ends one place on are, which have ranks. */
         private boolean isLess(Text text, int end, int other) {
             char sign = text.signOn(end);
             char otherSign = text.signOn(other);
-            return sign == otherSign ? ranks[end + 1] < ranks[other + 1] : sign < otherSign;
+            return sign == otherSign ? rankBy(end + 1) < rankBy(other + 1) : sign < otherSign;
+        }
+
+        private void keepRank(int place, int rank) {
+            if (place >= 0 && place < ranks.length) {
+                ranks[place] = rank;
+            }
         }
 
         int rankBy(int place) {
-            return place < 0 || place >= MOST ? -1 : ranks[place];
+            return place < 0 || place >= ranks.length ? -1 : ranks[place];
         }
 
         int placeBy(int rank) {
-            return rank < 0 || rank >= MOST ? -1 : places[rank];
+            return rank < 0 || rank >= places.length ? -1 : places[rank];
         }
 
         /** How many signs an end begins with that the end just less begins with too. */
@@ -873,26 +880,32 @@ public final class Rootsong {
 
     /** What rows of some slots make. */
     private static final class Making {
+        private static final int MOST_REMAINDERS = SLOTS * MOST;
+
         private final long[] rowsUpTo = new long[MOST + 1];
         // Remainders: the ends by which one row is ahead of another one that it is the same as.
-        private final int[] slots = new int[SLOTS * MOST];
-        private final int[] begins = new int[SLOTS * MOST];
+        private final int[] slots = new int[MOST_REMAINDERS];
+        private final int[] begins = new int[MOST_REMAINDERS];
         private final long[] known = new long[SLOTS];
         private int remainders = 0;
 
         long countRows(Text text, Text[] texts, int set) {
             rowsUpTo[0] = 1;
-            for (int till = 1; till <= text.size(); till++) {
+            for (int till = 1; till <= text.size() && till < rowsUpTo.length; till++) {
                 long rows = 0;
                 for (int slot = 0; slot < SLOTS; slot++) {
                     int from = till - texts[slot].size();
-                    if (isUsed(texts, set, slot) && from >= 0 && text.hasAt(from, texts[slot])) {
-                        rows += rowsUpTo[from];
+                    if (isUsed(texts, set, slot) && text.hasAt(from, texts[slot])) {
+                        rows += rowsTo(from);
                     }
                 }
                 rowsUpTo[till] = rows;
             }
-            return rowsUpTo[text.size()];
+            return rowsTo(text.size());
+        }
+
+        private long rowsTo(int till) {
+            return till < 0 || till >= rowsUpTo.length ? 0 : rowsUpTo[till];
         }
 
         /**
@@ -908,7 +921,7 @@ public final class Rootsong {
                     }
                 }
             }
-            for (int next = 0; next < remainders && next < slots.length; next++) {
+            for (int next = 0; next < remainders && next < MOST_REMAINDERS; next++) {
                 for (int other = 0; other < SLOTS; other++) {
                     if (isMatchedBy(texts, set, slots[next], begins[next], other)) {
                         return false;
@@ -947,7 +960,7 @@ public final class Rootsong {
         private void keepRemainder(int slot, int begin) {
             long bit = 1L << begin;
             boolean isNew = slot >= 0 && slot < SLOTS && (known[slot] & bit) == 0;
-            if (isNew && remainders < slots.length) {
+            if (isNew && remainders < MOST_REMAINDERS) {
                 known[slot] |= bit;
                 slots[remainders] = slot;
                 begins[remainders] = begin;
